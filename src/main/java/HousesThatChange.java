@@ -253,7 +253,8 @@ public final class HousesThatChange {
         if (nights < 0 || nights > MOST_APART || part < 0 || part > 1) {
             return OUTSIDE;
         }
-        return lowest(mayor.rollsApart(number(), nights), town.rolls(nights), part);
+        mayor.learn(nights);
+        return lowest(mayor.rollsFor(number(), nights), town.rolls(nights), part);
     }
 
     public int choose(int die, int nights) {
@@ -364,7 +365,12 @@ public final class HousesThatChange {
             h = houseInto(h, house);
         }
         if (town.stands()) {
-            h = ringInto(h);
+            h = 31 * h + touch();
+            h = 31 * h + joins();
+            h = 31 * h + apart(2, 0);
+            h = 31 * h + apart(2, 1);
+            h = 31 * h + ways(3);
+            h = 31 * h + must(3);
         }
         if (goal.told) {
             h = 31 * h + fewest();
@@ -388,15 +394,6 @@ public final class HousesThatChange {
             h = 31 * h + feud(house, other);
         }
         return 31 * h + walk(house);
-    }
-
-    private long ringInto(long start) {
-        long h = 31 * start + touch();
-        h = 31 * h + joins();
-        h = 31 * h + apart(2, 0);
-        h = 31 * h + apart(2, 1);
-        h = 31 * h + ways(3);
-        return 31 * h + must(3);
     }
 
     /** Rows whose index is looked at before it is used. */
@@ -467,7 +464,7 @@ public final class HousesThatChange {
         }
 
         int digit(int i) {
-            return code(i) - '0';
+            return Cells.get(codes, i) - '0';
         }
 
         private boolean isDigit(int i, int least, int most) {
@@ -584,12 +581,14 @@ public final class HousesThatChange {
         private final int[] feuds = new int[MOST_HOUSES * MOST_HOUSES];
         private int houses;
         private int pairs;
+        private int bars;
 
         void read(Page page) {
             houses = page.housesTold();
             for (int house = 0; house < houses; house++) {
                 Cells.put(kinds, house, Page.kindTold(page.code(house)));
             }
+            setBars();
             Arrays.fill(feuds, 0);
             pairs = 0;
             for (int i = houses + 1; i < page.size; i += 3) {
@@ -619,7 +618,7 @@ public final class HousesThatChange {
         }
 
         boolean is(int house, int kind) {
-            int own = kind(house);
+            int own = Cells.get(kinds, house);
             return kind == HOUSE || own == kind || (kind == FIXED && own == WELL);
         }
 
@@ -650,7 +649,16 @@ public final class HousesThatChange {
          * at first, so the HOUSES of these numbers tell it for every ORDER that can come.
          */
         boolean barred(int place) {
-            return is(place, FIXED) || is(next(place), FIXED);
+            return (bars >>> place & 1) != 0;
+        }
+
+        private void setBars() {
+            bars = 0;
+            for (int place = 0; place < houses; place++) {
+                if (is(place, FIXED) || is(next(place), FIXED)) {
+                    bars |= 1 << place;
+                }
+            }
         }
 
         int touching(int[] order) {
@@ -814,6 +822,7 @@ public final class HousesThatChange {
         private final Town town;
         private final Orders orders;
         private final int[] rolls = new int[MOST_APART * MOST_ORDERS];
+        private final int[] left = new int[MOST_HOUSES];
         private int known;
 
         Mayor(Town town, Orders orders) {
@@ -825,18 +834,8 @@ public final class HousesThatChange {
             known = 0;
         }
 
-        int rollsApart(int order, int nights) {
-            learn(nights);
-            return rollsFor(order, nights);
-        }
-
-        int choice(int order, int die, int nights) {
-            learn(nights);
-            return best(order, die, nights);
-        }
-
-        /** What these NIGHTS look up: the rolls for all fewer ones. */
-        private void learn(int nights) {
+        /** What so many NIGHTS look up: the rolls for all fewer ones. */
+        void learn(int nights) {
             while (known < nights && known < MOST_APART) {
                 for (int order = 0; order < orders.size; order++) {
                     Cells.put(rolls, known * MOST_ORDERS + order, rollsFor(order, known));
@@ -845,34 +844,44 @@ public final class HousesThatChange {
             }
         }
 
-        private int rollsFor(int order, int nights) {
-            if (town.touching(orders.unfold(order)) > 0) {
+        /** Wants that so many NIGHTS are learnt. */
+        int rollsFor(int order, int nights) {
+            if (nights == 0) {
+                return town.touching(orders.unfold(order)) == 0 ? 1 : 0;
+            }
+            if (Cells.get(rolls, order) == 0) {
                 return 0;
             }
-            if (nights == 0) {
-                return 1;
-            }
+            lookAhead(order, nights);
             int sum = 0;
             for (int die = 0; die < town.houses; die++) {
-                sum += rollsLeft(order, die + best(order, die, nights), nights);
+                sum += Math.max(leftBy(die - 1), Math.max(leftBy(die), leftBy(die + 1)));
             }
             return sum;
         }
 
-        private int best(int order, int die, int nights) {
+        int choice(int order, int die, int nights) {
+            learn(nights);
+            lookAhead(order, nights);
             int best = -1;
             for (int choice = 0; choice <= 1; choice++) {
-                if (rollsLeft(order, die + choice, nights) > rollsLeft(order, die + best, nights)) {
+                if (leftBy(die + choice) > leftBy(die + best)) {
                     best = choice;
                 }
             }
             return best;
         }
 
-        private int rollsLeft(int order, int number, int nights) {
-            int place = town.around(number);
-            int then = town.barred(place) ? order : orders.after(order, place);
-            return Cells.get(rolls, (nights - 1) * MOST_ORDERS + then);
+        /** For each PLACE, the rolls for the NIGHTS behind a change in it. */
+        private void lookAhead(int order, int nights) {
+            for (int p = 0; p < town.houses; p++) {
+                int then = town.barred(p) ? order : orders.after(order, p);
+                Cells.put(left, p, Cells.get(rolls, (nights - 1) * MOST_ORDERS + then));
+            }
+        }
+
+        private int leftBy(int number) {
+            return Cells.get(left, town.around(number));
         }
     }
 

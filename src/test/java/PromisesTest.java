@@ -229,6 +229,18 @@ public final class PromisesTest {
         due("5: new ones are there", x.feud(0, 2), 1);
         due("5: read twice", x.count(5), 2);
         order(x, "012");
+        due("5: old ones don't count", x.count(1), 2);
+        due("5: nor for APART", x.apart(2, 0), 0);
+        write(x, "hhh");
+        x.ring();
+        due("5: APART of the new RING", x.apart(2, 0), 1);
+        write(x, "ffwh");
+        x.ring();
+        due("5: FIXED ones", x.night(0, 0), 0);
+        write(x, "hheh");
+        x.ring();
+        due("5: are gone", x.night(0, 0), 1);
+        due("5: of their KINDS, too", x.house(2, 0), 2);
         HousesThatChange full = ring("hfewhf;50,15,25,35,45,05");
         due("5: six FEUDS told, one of them twice", full.count(1), 5);
     }
@@ -236,7 +248,7 @@ public final class PromisesTest {
     // promise 6
     private static void aim() {
         due("6: no RING", page("012").aim(), STATE);
-        String[] none = {"", "012", "01234", "0122", "1234", "012x", "/012", "3 12"};
+        String[] none = {"", "012", "01234", "0122", "1123", "1234", "012x", "/012", "3 12"};
         HousesThatChange x = aimed("hhhh", "0132");
         due("6: THE PAGE is empty", x.count(4), 0);
         for (String text : none) {
@@ -280,6 +292,7 @@ public final class PromisesTest {
         letter(x, "r05", STATE);
         letter(x, "b02", 1);
         letter(x, "b03", 4);
+        letter(x, "b41", 0);
         letter(x, "b01", NONE);
         letter(x, "b05", UNKNOWN);
         letter(x, "b50", UNKNOWN);
@@ -490,13 +503,18 @@ public final class PromisesTest {
         due("16: by choice", ring("hhhhhh;03").nights(60, 1), 0);
         due("16: by chance", ring("hhhhhh;03").nights(60, 0) > 0 ? 1 : 0, 1);
         due("16: FIXED", ring("fff;01").nights(60, 0), 60);
-        nightsByChoice();
+        nightsByChoice("hhhhhf;01,12,34");
+        HousesThatChange three = ring("hhhhhh;52,41,15,40");
+        due("16: the DIE of the first draw for 1", three.choose(2, 1), -1);
+        due("16: for 2", three.choose(2, 2), 0);
+        due("16: for 3", three.choose(2, 3), 1);
+        nightsByChoice("hhhhhh;52,41,15,40");
     }
 
     /** By RULE 1 each NIGHT is that of CHOOSE for 2 NIGHTS, though FEUDS TOUCH at first. */
-    private static void nightsByChoice() {
-        HousesThatChange x = ring("hhhhhf;01,12,34");
-        HousesThatChange y = ring("hhhhhf;01,12,34");
+    private static void nightsByChoice(String ring) {
+        HousesThatChange x = ring(ring);
+        HousesThatChange y = ring(ring);
         long seed = 1;
         for (int i = 0; i < 40; i++) {
             seed = (1103515245L * seed + 12345L) % (1L << 31);
@@ -590,15 +608,16 @@ public final class PromisesTest {
         away("hhhf", "2103", 3, NONE);
         away("hfhh", "2103", 3, NONE);
         away("hfhf", "2103", NONE, NONE);
-        away("hhhh", "3120", 1, NONE);
         away("fhhw", "3120", NONE, NONE);
         HousesThatChange x = aimed("hhhh", "1230");
         due("20: a turn of four", x.fewest(), 3);
         x.night(0, 0);
         due("20: from the ORDER now", x.fewest(), 2);
+        due("20: and not surely", x.surely(), NONE);
         write(x, "1023");
         x.aim();
         due("20: another AIM", x.fewest(), 0);
+        due("21: another AIM", x.surely(), 0);
     }
 
     // promise 21
@@ -607,6 +626,13 @@ public final class PromisesTest {
         due("21: no AIM", ring("hhh").surely(), STATE);
         // with three HOUSES each DIE leaves each PLACE to the choice
         away("hhh", "021", 1, 1);
+        away("hhh", "102", 1, 1);
+        away("hhh", "210", 1, 1);
+        // of four, each change is out of one DIE's reach
+        away("hhhh", "1023", 1, NONE);
+        away("hhhh", "0213", 1, NONE);
+        away("hhhh", "0132", 1, NONE);
+        away("hhhh", "3120", 1, NONE);
         away("hhh", "120", 2, 2);
         away("hhf", "102", 1, 1);
         away("hff", "012", 0, 0);
@@ -614,6 +640,10 @@ public final class PromisesTest {
         x.night(0, 0);
         due("21: from the ORDER now", x.surely(), 1);
         away("hhhhhh", "102345", 1, NONE);
+        HousesThatChange turned = aimed("hhh", "012");
+        turned.night(0, 0);
+        turned.night(1, 0);
+        due("21: two NIGHTS back", turned.surely(), 2);
     }
 
     private static void odds(String ring, int house, int place, int nights, int above, int below) {
@@ -692,6 +722,12 @@ public final class PromisesTest {
         past(three, 1, 1, 1);
         past(three, 3, 3, 1);
         HousesThatChange only = ring("hhf");
+        only.night(0, 0);
+        due("24: asked alone", only.must(11), 1);
+        due("24: one of no such length", only.must(10), 0);
+        only.night(0, 0);
+        due("24: there and back", only.must(2), 1);
+        due("24: of no NIGHTS, behind that", only.must(0), 0);
         only.night(0, 0);
         past(only, 11, 1, 1);
         past(only, 12, 0, 0);
@@ -781,6 +817,31 @@ public final class PromisesTest {
             3, 2, 2, 2, 1, 0, 0, 1, 1, 0, 0, 1, 1, 1, 1, 1, 'n', 3, 1, 1, 1, 1, 1);
         due("28: and an AIM", x.digest(), due);
         due("28: changes nothing", x.digest(), due);
+        HousesThatChange five = ring("hhhhh;02,13");
+        five.night(3, 0);
+        due("28: the parts that three HOUSES leave at 0", five.digest(), digestOfCalls(five));
+        due("28: JOINS", five.joins(), 2);
+        due("28: APART of 2 and of 3 NIGHTS", five.apart(2, 1) == five.apart(3, 1) ? 1 : 0, 0);
+    }
+
+    private static long digestOfCalls(HousesThatChange x) {
+        long h = mixed();
+        int houses = x.count(0);
+        for (int house = 0; house < houses; house++) {
+            for (int what = 0; what < 4; what++) {
+                h = 31 * h + x.house(house, what);
+            }
+            for (int other = 0; other < houses; other++) {
+                h = 31 * h + x.feud(house, other);
+            }
+            h = 31 * h + x.walk(house);
+        }
+        long[] more = {x.touch(), x.joins(), x.apart(2, 0), x.apart(2, 1), x.ways(3), x.must(3), x.count(0), x.count(1),
+            x.count(2), x.count(3), x.count(4), x.count(5)};
+        for (long number : more) {
+            h = 31 * h + number;
+        }
+        return h;
     }
 
     /** "Without a RING: STATE, where it is told, behind UNKNOWN." */
