@@ -1,55 +1,5 @@
 /** Each promise of the document, by its number: ordinary inputs, its edges, wrong inputs. */
-public final class PromisesTest {
-    private static final int NONE = -1, UNKNOWN = -101, OUTSIDE = -102, STATE = -103, FULL = -104;
-    private static final int MIN = Integer.MIN_VALUE, MAX = Integer.MAX_VALUE;
-    private static int wrong = 0;
-
-    private static void due(String what, long got, long want) {
-        if (got != want) {
-            wrong++;
-            System.out.println(what + " answered " + got + ", due is " + want);
-        }
-    }
-
-    private static long packed(String text) {
-        long w = 0;
-        for (int i = 0; i < text.length(); i++) {
-            w |= (long) text.charAt(i) << 8 * i;
-        }
-        return w;
-    }
-
-    private static void write(HousesThatChange x, String text) {
-        for (int from = 0; from < text.length(); from += 8) {
-            x.letters(packed(text.substring(from, Math.min(from + 8, text.length()))));
-        }
-    }
-
-    private static HousesThatChange page(String text) {
-        HousesThatChange x = new HousesThatChange();
-        write(x, text);
-        return x;
-    }
-
-    private static HousesThatChange ring(String text) {
-        HousesThatChange x = page(text);
-        due("ring() of " + text, x.ring(), text.contains(";") ? text.indexOf(';') : text.length());
-        return x;
-    }
-
-    private static HousesThatChange aimed(String ring, String aim) {
-        HousesThatChange x = ring(ring);
-        write(x, aim);
-        due("aim() of " + aim, x.aim(), aim.length());
-        return x;
-    }
-
-    private static void order(HousesThatChange x, String due) {
-        for (int place = 0; place < due.length(); place++) {
-            due("at(" + place + ") of " + due, x.at(place), due.charAt(place) - '0');
-        }
-    }
-
+public final class PromisesTest extends Check {
     public static void main(String[] args) {
         newObject();
         letters();
@@ -81,8 +31,7 @@ public final class PromisesTest {
         count();
         digest();
         withoutRing();
-        System.out.println(wrong == 0 ? "all promises are kept" : wrong + " answers are not as due");
-        System.exit(wrong == 0 ? 0 : 1);
+        finish("all promises are kept");
     }
 
     // promise 1

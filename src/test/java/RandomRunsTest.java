@@ -3,7 +3,8 @@ import java.util.Random;
 /** Runs of calls by chance (always the same ones), each answer held against that of PlainHouses. */
 public final class RandomRunsTest {
     private static final int RUNS = 500;
-    private static final int CALLS = 120;
+    /** A step makes far fewer than fifty calls, and what comes behind the 512th is free. */
+    private static final int MOST_CALLS = 512 - 50;
     private static final int MOST_TOLD = 20;
 
     private final Random random;
@@ -11,6 +12,7 @@ public final class RandomRunsTest {
     private HousesThatChange program = new HousesThatChange();
     private PlainHouses plain = new PlainHouses();
     private final StringBuilder calls = new StringBuilder();
+    private int made;
     private static int wrong = 0;
 
     private RandomRunsTest(int run) {
@@ -32,7 +34,7 @@ public final class RandomRunsTest {
         if (run % 4 != 0) {
             readRing();
         }
-        for (int i = 0; i < CALLS && wrong == before; i++) {
+        while (made < MOST_CALLS && wrong == before) {
             step();
         }
         if (wrong != before) {
@@ -41,6 +43,7 @@ public final class RandomRunsTest {
     }
 
     private void due(String call, long got, long want) {
+        made++;
         calls.append(' ').append(call).append('=').append(got);
         if (got != want) {
             wrong++;
