@@ -53,6 +53,7 @@ public final class NightEdgesTest extends Check {
         edge("FEWEST: the most that can be", NightEdgesTest::fewestMost);
         edge("FEWEST: behind the last PLACE comes 0", NightEdgesTest::fewestRound);
         edge("FEWEST: the ORDER now", NightEdgesTest::fewestNow);
+        edge("THE AIM: all HOUSES once: the last ORDER of all", NightEdgesTest::lastOrder);
         edge("21: STATE: no AIM, too", () -> withoutAim(HousesThatChange::surely));
         edge("SURELY: THE AIM now", NightEdgesTest::surelyNow);
         edge("SURELY: the least N", NightEdgesTest::surelyLeast);
@@ -552,6 +553,8 @@ public final class NightEdgesTest extends Check {
         away("fff", "021", NONE, NONE);
         away("hff", "102", NONE, NONE);
         away("hfhf", "2103", NONE, NONE);
+        away("fhhh", "1023", NONE, NONE);
+        away("whhh", "1230", NONE, NONE);
         away("hhfhhf", "345012", NONE, NONE);
         away("hhfhhf", "102435", 2, NONE);
         away("hhhhhw", "512340", NONE, NONE);
@@ -593,6 +596,27 @@ public final class NightEdgesTest extends Check {
         due("surely", x.surely(), 0);
     }
 
+    /** The HOUSES backwards, to which and from which much is asked. */
+    private static void lastOrder() {
+        String[] backwards = {"210", "3210", "43210", "543210"};
+        int[] fewest = {1, 2, 4, 7};
+        for (int i = 0; i < backwards.length; i++) {
+            int houses = backwards[i].length();
+            away("hhhhhh".substring(0, houses), backwards[i], fewest[i], houses == 3 ? 1 : NONE);
+        }
+        HousesThatChange x = went("hhhhhh;24,53,30,04", "012340123012010");
+        order(x, "543210");
+        due("apart(5, 0)", x.apart(5, 0), 1441);
+        due("apart(5, 1)", x.apart(5, 1), 7776);
+        due("choose(2, 5)", x.choose(2, 5), 1);
+        due("choose(3, 5)", x.choose(3, 5), 0);
+        due("ways(6)", x.ways(6), 0);
+        due("ways(7)", x.ways(7), 224);
+        due("must(7)", x.must(7), 36);
+        due("ways(11)", x.ways(11), 732160);
+        due("must(11)", x.must(11), 36);
+    }
+
     private static void surelyNow() {
         away("hhhhhh", "012345", 0, 0);
         away("fff", "012", 0, 0);
@@ -613,6 +637,23 @@ public final class NightEdgesTest extends Check {
         away("hhf", "102", 1, 1);
         away("fhh", "021", 1, 1);
         away("wew", "012", 0, 0);
+        for (String places : new String[] {"", "0", "1", "2", "01", "10"}) {
+            for (String aim : new String[] {"012", "102", "021", "210", "201", "120"}) {
+                leastOfThree(places, aim);
+            }
+        }
+    }
+
+    /** Of three one NIGHT makes an even ORDER odd, whichever it is, and each odd one is beside each even one. */
+    private static void leastOfThree(String places, String aim) {
+        HousesThatChange x = went("hhh", places);
+        write(x, aim);
+        x.aim();
+        boolean there = x.house(0, 1) == x.house(0, 3) && x.house(1, 1) == x.house(1, 3);
+        boolean odd = aim.equals("102") || aim.equals("021") || aim.equals("210");
+        int due = there ? 0 : odd == (places.length() == 1) ? 2 : 1;
+        due("fewest() behind " + places + " to " + aim, x.fewest(), due);
+        due("surely() behind " + places + " to " + aim, x.surely(), due);
     }
 
     private static void surelyNever() {

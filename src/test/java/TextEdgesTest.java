@@ -61,6 +61,7 @@ public final class TextEdgesTest extends Check {
         edge("6: STATE: there is no RING", TextEdgesTest::aimWithoutRing);
         edge("6: STATE: it is none: a digit for each PLACE", TextEdgesTest::aimLength);
         edge("6: STATE: it is none: all HOUSES once", TextEdgesTest::aimOfAllOnce);
+        edge("6: all HOUSES: FIXED ones, wherever they stand in it", TextEdgesTest::aimOfFixed);
         edge("7: STATE: there is no RING", TextEdgesTest::letterWithoutRing);
         edge("7: STATE: it is none", TextEdgesTest::noLetterText);
         edge("7: UNKNOWN: a HOUSE that is not there", TextEdgesTest::letterToUnknown);
@@ -450,6 +451,22 @@ public final class TextEdgesTest extends Check {
         due("its KINDS", x.as(2, 2), NONE);
         due("the new one's", x.as(0, 2), 0);
         due("its FEUDS", x.feud(0, 2), 0);
+        fixedOnesAreGone();
+    }
+
+    private static void fixedOnesAreGone() {
+        for (String old : new String[] {"ffffff;01", "fhh", "hwh", "hhhhhw"}) {
+            HousesThatChange x = ring(old);
+            write(x, "hhehh");
+            x.ring();
+            for (int die = 0; die < 5; die++) {
+                due("night(" + die + ", 0) behind " + old, x.night(die, 0), 1);
+            }
+        }
+        HousesThatChange x = houses(6);
+        write(x, "hff");
+        x.ring();
+        due("none that could move before", x.night(0, 0), 0);
     }
 
     private static void aimIsGone() {
@@ -584,6 +601,16 @@ public final class TextEdgesTest extends Check {
                     due("aim() of " + text, x.aim(), due);
                     due("THE PAGE of " + text, x.count(4), due == STATE ? houses : 0);
                 }
+            }
+        }
+    }
+
+    private static void aimOfFixed() {
+        for (String ring : new String[] {"fhhh", "whhh", "hfwe", "ffff", "wwww"}) {
+            for (String aim : new String[] {"0123", "1230", "3012", "3210", "0213"}) {
+                HousesThatChange x = onPage(ring, aim).made();
+                due("aim() of " + aim + " for " + ring, x.aim(), 4);
+                due("the PLACE of 0 in it", x.house(0, 3), aim.indexOf('0'));
             }
         }
     }

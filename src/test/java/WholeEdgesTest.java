@@ -79,7 +79,12 @@ public final class WholeEdgesTest extends Check {
         HousesThatChange y = houses(4);
         y.image();
         same("nothing else changes", restored(y), restored(imaged(houses(4))));
-        order(houses(4), "0123");
+        HousesThatChange z = lived();
+        z.seed(5);
+        z.image();
+        due("THE SEED stays", z.count(3), 5);
+        due("THE PAGE stays", z.count(4), 3);
+        due("THE AIM stays", z.house(4, 3), 0);
     }
 
     private static HousesThatChange imaged(HousesThatChange x) {
